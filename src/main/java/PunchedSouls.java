@@ -778,11 +778,8 @@ public final class PunchedSouls {
         int hire(Hand hand) {
             int number = size;
             workers[number] = hand;
-            // An undone WORKER may have left its traces at this number.
-            holes[number] = 0;
+            // HOLES, ROW and AT HOME are 0 at numbers that nobody has, behind an undo(), too: THE IMAGE has them so.
             has[number] = number;
-            Arrays.fill(rows, ROW_PARTS * number, ROW_PARTS * (number + 1), 0);
-            keepAtHome(number, false);
             size++;
             return number;
         }

@@ -39,6 +39,9 @@ public final class DaysTest {
         expect.is("DAY", 7, x.told(0));
         expect.is("pass(60)", 67, x.pass(60));
         expect.is("all full", 60, x.told(2));
+        PunchedSouls last = Runs.souls(0, 0, 0, 0, 0, 6);
+        last.row(5, 3, 8);
+        expect.is("the last one's ROW, asked", 0b100001111, last.on(4, 15));
         PunchedSouls told = Runs.souls(6, 6);
         told.row(1, 0, 7);
         told.row(1, 1, 6);
@@ -73,6 +76,10 @@ public final class DaysTest {
         expect.is("cards on 75", 13102, Runs.cards(x));
         x.pass(24);
         expect.is("cards on 99", 11023, Runs.cards(x));
+        PunchedSouls daily = Runs.souls(0, 0, 0);
+        Runs.works(daily, "round 1");
+        daily.pass(1);
+        expect.is("cards with ROUND 1", 1120, Runs.cards(daily));
         PunchedSouls one = Runs.souls(0);
         Runs.works(one, "round 1");
         one.pass(3);

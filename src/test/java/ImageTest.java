@@ -55,6 +55,9 @@ public final class ImageTest {
         expect.is("below 0", 100, x.judge(0, -1));
         x.tape(0, 1, 0);
         expect.is("an empty row", 100, x.judge(0, 0));
+        x.tape(0, 1, 3);
+        x.tape(0, -1, 0);
+        expect.is("nothing there any more", 100, x.judge(0, 0));
     }
 
     private static void image() {
@@ -66,7 +69,7 @@ public final class ImageTest {
         x.set(1, 77);
         x.swap(0, 1);
         x.pass(3);
-        x.see(0, 5, 6);
+        x.see(0, x.on(6, 10), 6);
         x.plan(1, 1);
         x.book(1, 3);
         Runs.works(x, "round 9");
@@ -82,9 +85,15 @@ public final class ImageTest {
             x.set(1, 2);
             x.swap(0, 2);
             x.pass(8);
+            x.see(-1, 0, 0);
             x.see(1, 1, 1);
+            x.see(1, 1, 2);
             x.plan(-1, 0);
+            x.plan(2, 0);
+            x.plan(0, 1);
             x.book(-1, 0);
+            x.book(0, holes0);
+            x.book(1, holes1);
             Runs.works(x, "glad 1 p=0;round 3");
             expect.is("undo()", 2, x.undo());
             expect.is("WORKERS", 2, x.count(0));
@@ -100,6 +109,7 @@ public final class ImageTest {
             expect.is("PLAN", 1, x.count(3));
             expect.is("BOOK", 1, x.count(4));
             expect.is("BOOK's row", 0, x.looked());
+            expect.is("SEEN's row", 10, x.can(1, 0));
             expect.is("TEMPER by the PLAN", x.of(0, 10) + x.of(1, 11), x.ends(1));
             expect.is("ROW", 7, x.row(0, 2, 7));
         }

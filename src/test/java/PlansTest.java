@@ -43,6 +43,13 @@ public final class PlansTest {
         expect.is("count(3)", 10, x.count(3));
         expect.is("plan(-1, 9)", 0, x.plan(-1, 9));
         expect.is("count(3)", 0, x.count(3));
+        PunchedSouls six = Runs.souls(0, 0, 0, 0, 0, 0);
+        expect.is("plan(1, 54)", 1, six.plan(1, 54));
+        expect.is("plan(1, 45)", 2, six.plan(1, 45));
+        expect.is("plan(1, 55)", -2, six.plan(1, 55));
+        expect.is("plan(1, 50)", 3, six.plan(1, 50));
+        expect.is("plan(1, 60)", -1, six.plan(1, 60));
+        expect.is("plan(1, 59)", -1, six.plan(1, 59));
         PunchedSouls none = new PunchedSouls();
         expect.is("plan(0, 0) without workers", 1, none.plan(0, 0));
         expect.is("plan(1, 1) without workers", -1, none.plan(1, 1));
@@ -76,12 +83,25 @@ public final class PlansTest {
         expect.is("DAY", 0, x.told(0));
         expect.is("HOLES", 0, x.told(2));
         expect.is("AT HOME", 0, x.of(0, 2));
+        swapsOfSix();
         x.stay(2, true);
         x.plan(-1, 0);
         x.plan(0, 7);
         expect.is("who is AT HOME stays there", 2, x.ends(0));
         Runs.works(x, "sour 99 p<9");
         expect.is("TEMPER below 0", -90 - 45 - 89, x.ends(1));
+    }
+
+    private static void swapsOfSix() {
+        PunchedSouls x = Runs.souls(0, 0, 0, 0, 0, 0);
+        Runs.works(x, "glad 7 p=5&c=3;glad 50 p=3&c=4");
+        x.plan(1, 54);
+        x.plan(1, 43);
+        expect.is("5 HAS 4, 4 HAS 3, 3 HAS 5", 60, x.ends(1));
+        x.plan(1, 54);
+        expect.is("5 HAS 3", 67, x.ends(1));
+        x.plan(1, 34);
+        expect.is("3 HAS 4, too", 117, x.ends(1));
     }
 
     private static void book() {

@@ -120,6 +120,9 @@ public final class SeenTest {
         expect.part("promise 18");
         PunchedSouls x = new PunchedSouls();
         expect.is("none there", Runs.NO, x.odds(0, 0, 0));
+        PunchedSouls one = Runs.souls(0);
+        expect.is("one alone is at home, above", 1, one.odds(9, 0, 0));
+        expect.is("one alone is at home, below", 1, one.odds(9, 0, 1));
         for (int p = 0; p < 4; p++) {
             x.worker(p == 3 ? 1 : 0, 0);
         }
@@ -156,6 +159,9 @@ public final class SeenTest {
         expect.part("promise 19");
         PunchedSouls x = new PunchedSouls();
         expect.is("none there", Runs.NO, x.mean(0, 0));
+        PunchedSouls one = Runs.souls(0);
+        expect.is("one alone, above", 9, one.mean(9, 0));
+        expect.is("one alone, below", 1, one.mean(9, 1));
         x.worker(0, 0);
         x.worker(1, 0);
         x.worker(4, 0);

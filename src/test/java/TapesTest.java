@@ -38,7 +38,9 @@ public final class TapesTest {
         expect.is("read(0, 5)", 0, x.read(0, 5));
         expect.is("tape(5, 0, 0)", 1, x.tape(5, 0, 0));
         expect.is("an empty row is no place", -13, x.item(5, 0, 0));
+        x.tape(5, 0, 3);
         expect.is("tape(5, -1, most)", 1, x.tape(5, -1, Runs.MOST));
+        expect.is("read(5, 0)", Runs.NO, x.read(5, 0));
         expect.is("nothing", -11, x.item(5, 0, 0));
         expect.is("tape(5, -1, least)", 1, x.tape(5, -1, Runs.LEAST));
     }

@@ -299,5 +299,32 @@ public final class WorksTest {
         x.set(3, 0);
         // WORKER 1 HAS CARD 2: 0 and 2 are full behind the turns 0 and 1.
         expect.is("told by WORKERS, not by CARDS", 1, x.told(6));
+        x.pass(5);
+        // WORKER 0 HAS CARD 2 now and will HAVE 1, 3 and 0; CARD 0 is full, so no swap makes less.
+        expect.is("a full card", -5, x.told(6));
+        x.set(0, 0);
+        x.set(3, 31);
+        x.set(2, 0);
+        // It punches 5-9, 0-4, 5-9, 0-4: the third turn, WORKER 2's, fills CARD 3; 1 or 3 may take it.
+        expect.is("1 with 2", 12, x.told(6));
+        tradeBehind20();
+    }
+
+    /** An OLD one alone is not AT HOME, and has every card for 4 days. */
+    private static PunchedSouls oldAndHome(int size, int holesOfCard0) {
+        PunchedSouls x = new PunchedSouls();
+        x.worker(3, 0);
+        for (int p = 1; p < size; p++) {
+            x.worker(0, 0);
+            x.stay(p, true);
+        }
+        Runs.works(x, "round 4");
+        x.set(0, holesOfCard0);
+        return x;
+    }
+
+    private static void tradeBehind20() {
+        expect.is("the sixth turn begins behind 20", 5, oldAndHome(6, 511).told(6));
+        expect.is("the fifth turn ends with 20", -5, oldAndHome(5, 63).told(6));
     }
 }
