@@ -497,7 +497,9 @@ public final class PunchedSouls {
         }
         sorts[tape] = sort;
         lengths[tape] = n;
-        Arrays.fill(items, MOST_ITEMS * tape, MOST_ITEMS * tape + n, 0L);
+        for (int i = 0; i < n; i++) {
+            items[MOST_ITEMS * tape + i] = 0;
+        }
         return 1;
     }
 
