@@ -55,7 +55,45 @@ final class EdgesOfActs implements Answers {
         e.is("of(1, 11)", 5);
         e.is("of(0, 6)", 1 << 7);
         e.is("row(0, 1, 7)", 7);
+        rowsAreInIt();
         theRestIsNotInIt();
+    }
+
+    /** SEEN, the PLAN and the BOOK are told anew behind THE IMAGE, as long as they were, but otherwise. */
+    private void rowsAreInIt() {
+        e.anew();
+        e.workers(0, 2);
+        e.make("see(0, 1, 1)", "see(1, 6, 2)", "plan(1, 1)", "plan(0, 0)", "plan(2, 1)", "book(0, 0)", "book(1, 0)");
+        e.is("had(0)", 1);
+        e.is("can(1, 0)", 1);
+        // HAND with CARD 1, LAD with CARD 0, one HOLE in each.
+        e.is("ends(1)", 9 + 10);
+        e.is("looked()", NOT);
+        e.make("image()", "see(-1, 0, 0)", "see(1, 0, 0)", "see(1, 2, 1)", "plan(-1, 0)", "plan(2, 0)", "plan(2, 1)",
+            "plan(0, 0)", "book(-1, 0)", "book(1, 0)", "book(0, 9)");
+        e.is("had(0)", 1);
+        e.is("can(1, 0)", 1);
+        e.is("ends(1)", 20);
+        e.is("looked()", 1);
+        e.make("set(1, 1)");
+        e.is("looked()", 0);
+        e.is("undo()", 2);
+        e.is("had(0)", 1);
+        e.is("can(1, 0)", 1);
+        e.is("can(0, 0)", 10);
+        e.is("ends(0)", 2);
+        e.is("ends(1)", 19);
+        e.is("looked()", NOT);
+        e.make("set(0, 8)");
+        e.is("looked()", 0);
+        e.is("had(0)", 0);
+        e.make("set(0, 0)", "set(1, 8)");
+        e.is("looked()", 1);
+        e.is("had(0)", 0);
+        e.is("undo()", 2);
+        e.make("pass(1)", "set(0, 0)", "set(1, 4)");
+        // From DAY 1 on: HAND slots 1, 2, LAD 2, 3: CARD 0 is not 1 behind 1, nor would it be by another.
+        e.is("had(0)", 0);
     }
 
     private void theRestIsNotInIt() {

@@ -194,6 +194,14 @@ final class EdgesOfAnswers implements Answers {
         e.is("count(5)", 7);
         e.is("read(0, 1)", 300);
         e.is("best(9)", NO_NUMBER);
+        e.anew();
+        e.workers(0, 0);
+        e.make("image()", "worker(0, 0)", "worker(0, 0)", "worker(0, 0)", "worker(0, 0)");
+        e.is("best(0)", 60);
+        e.is("best(15)", 5);
+        e.is("undo()", 2);
+        e.is("best(0)", 20);
+        e.is("best(11)", 1);
     }
 
     private void constants() {

@@ -353,6 +353,17 @@ final class EdgesOfAsked implements Answers {
         e.is("ends(0)", 5 + 4 + 5);
         e.is("count(3)", 10);
         e.is("plan(3, 0)", FULL);
+        // Who SWAPS is not AT HOME by that.
+        for (int ab : new int[] {1, 2, 10, 23, 30, 32}) {
+            e.anew();
+            e.workers(0, 0, 0, 0);
+            e.make("plan(1, " + ab + ")", "plan(0, " + ab + ")");
+            e.is("ends(0)", 4);
+        }
+        e.anew();
+        e.workers(0, 0);
+        e.make("stay(1, true)", "plan(3, 1)", "plan(0, 0)", "plan(2, 1)", "plan(0, 0)");
+        e.is("ends(0)", 3);
     }
 
     private void planRefused() {

@@ -268,6 +268,8 @@ final class EdgesOfTexts implements Answers {
         temper("glad 5 !!!!p=1", 10);
         temper("glad 5 (p=1|(p=1|(p=1|(p=1|p=0))))", 15);
         temper("glad 5 p=0&(p=0&(p=0&(p=0&(p=0&p=1))))", 10);
+        temper("glad 5 p=0&(p=0&(p=0&(p=0&(p=0&p=0))))", 15);
+        temper("glad 5 p=0&(p=0&(p=0&(p=0&(p=0))))&p=0", 15);
     }
 
     /** Every beginning of a WORKS, and a WORKS with one byte that fits nowhere, at every place. */
