@@ -1,4 +1,5 @@
 import com.sun.source.tree.AssertTree;
+import com.sun.source.tree.BinaryTree;
 import com.sun.source.tree.BlockTree;
 import com.sun.source.tree.ClassTree;
 import com.sun.source.tree.CompilationUnitTree;
@@ -11,6 +12,7 @@ import com.sun.source.tree.MethodInvocationTree;
 import com.sun.source.tree.MethodTree;
 import com.sun.source.tree.NewClassTree;
 import com.sun.source.tree.SynchronizedTree;
+import com.sun.source.tree.Tree;
 import com.sun.source.tree.ThrowTree;
 import com.sun.source.tree.TryTree;
 import com.sun.source.tree.VariableTree;
@@ -194,6 +196,22 @@ public final class LanguageTest {
         public Void visitAssert(AssertTree tree, ExecutableElement in) {
             none("rule 6", "assert");
             return super.visitAssert(tree, in);
+        }
+
+        @Override
+        public Void visitBinary(BinaryTree tree, ExecutableElement in) {
+            boolean isText = isText(tree.getLeftOperand()) || isText(tree.getRightOperand());
+            expect.part("rule 10");
+            expect.holds("no text joined by +: " + tree, !isText || tree.getKind() != Tree.Kind.PLUS);
+            expect.part("rule 6");
+            boolean isSame = tree.getKind() == Tree.Kind.EQUAL_TO || tree.getKind() == Tree.Kind.NOT_EQUAL_TO;
+            expect.holds("no texts by == or !=: " + tree, !isText || !isSame);
+            return super.visitBinary(tree, in);
+        }
+
+        private boolean isText(Tree tree) {
+            String type = String.valueOf(trees.getTypeMirror(new TreePath(getCurrentPath(), tree)));
+            return type.startsWith("java.lang.String");
         }
 
         @Override
